@@ -1,0 +1,23 @@
+/** Puts whole texts into the text buffer. */
+final class Texts {
+    private Texts() {
+    }
+
+    static void put(StorageQuotas x, String text) {
+        x.clearText();
+        for (int i = 0; i < text.length(); i++) {
+            x.appendText(text.charAt(i));
+        }
+    }
+
+    static int run(StorageQuotas x, String text) {
+        put(x, text);
+        return x.runText();
+    }
+
+    static int errorOf(String text) {
+        StorageQuotas x = new StorageQuotas();
+        put(x, text);
+        return x.errorPosition();
+    }
+}
