@@ -507,50 +507,36 @@ public final class StorageQuotas {
         oldest.copyFrom(state);
     }
 
+    // Answers false where the method of the face would throw; the reader has tested the numbers.
     private boolean executeCommand() {
         int[] numbers = text.numbers;
-        switch (text.command) {
-            case 'c':
-                return executeCreate(numbers[0], numbers[1], keyOf(numbers[2], numbers[3]), numbers[4]);
-            case 'n':
-                return executeDays(numbers[0]);
-            default:
-                return executeOnFile(keyOf(numbers[0], numbers[1]));
+        if (text.command == 'c') {
+            int key = keyOf(numbers[2], numbers[3]);
+            boolean possible = state.canAdd(key);
+            if (possible) {
+                state.addFile(numbers[0], numbers[1], key, numbers[4]);
+            }
+            return possible;
         }
-    }
-
-    private boolean executeCreate(int user, int group, int key, int blocks) {
-        boolean possible = state.canAdd(key);
-        if (possible) {
-            state.addFile(user, group, key, blocks);
+        if (text.command == 'n') {
+            boolean possible = state.canPass(numbers[0]);
+            if (possible) {
+                state.passDays(numbers[0]);
+            }
+            return possible;
         }
-        return possible;
-    }
-
-    private boolean executeDays(int days) {
-        boolean possible = state.canPass(days);
-        if (possible) {
-            state.passDays(days);
-        }
-        return possible;
-    }
-
-    private boolean executeOnFile(int key) {
-        int place = state.files.find(key);
+        int place = state.files.find(keyOf(numbers[0], numbers[1]));
         if (place == NONE) {
             return false;
         }
-        switch (text.command) {
-            case 'r':
-                state.resizeFile(place, text.numbers[2]);
-                return true;
-            case 'm':
-                state.moveFile(place, text.numbers[2], text.numbers[3]);
-                return true;
-            default:
-                state.removeFile(place);
-                return true;
+        if (text.command == 'r') {
+            state.resizeFile(place, numbers[2]);
+        } else if (text.command == 'm') {
+            state.moveFile(place, numbers[2], numbers[3]);
+        } else {
+            state.removeFile(place);
         }
+        return true;
     }
 
     private static int takeLargest(int[] row, int count) {
@@ -768,7 +754,7 @@ public final class StorageQuotas {
         }
 
         private boolean isOver(int pair) {
-            return isRunning(pair) && daysRunning(pair) >= graceLengths[pair % RESOURCES];
+            return starts[pair] != NONE && today - starts[pair] >= graceLengths[pair % RESOURCES];
         }
 
         private boolean canPass(int days) {
@@ -940,7 +926,9 @@ public final class StorageQuotas {
             kinds[newest] = kind;
             pairs[newest] = pair;
             days[newest] = today;
-            count = Math.min(count + 1, MOST_EVENTS);
+            if (count < MOST_EVENTS) {
+                count++;
+            }
         }
 
         private int partOf(int index, int part) {

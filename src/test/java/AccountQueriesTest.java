@@ -124,6 +124,8 @@ public final class AccountQueriesTest {
         Check.is("over with a hard limit", x.available(0, 0), 0);
         x.setLimits(0, 0, 5, 0);
         Check.is("over without a hard limit", x.available(0, 0), 0);
+        x.setLimits(1, 0, 0, 1);
+        Check.is("the least hard limit", x.available(1, 0), 1);
         x.setLimits(0, 0, 0, 100000);
         Check.is("the greatest hard limit", x.available(0, 0), 99990);
         x.setExempt(0, true);

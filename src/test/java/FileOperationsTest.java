@@ -15,6 +15,7 @@ public final class FileOperationsTest {
         move();
         moveOfOneSide();
         moveRefused();
+        moveRefusedElsewhere();
         moveThrows();
         exemptActors();
         increaseByNothing();
@@ -214,6 +215,11 @@ public final class FileOperationsTest {
         Check.is("the size stays", x.sizeOf(3, 4), 0);
         Check.is("the usage stays", x.usage(1, 0), 7);
         Check.is("a refusal is saved", x.savedStates(), 6);
+        Check.is("counted for the group", x.refusals(8), 1);
+        Check.is("counted for the user", x.refusals(1), 1);
+        Check.is("logged for the user", x.event(0, 1), 1);
+        Check.is("logged for the group", x.event(1, 1), 8);
+        Check.is("logged for BLOCKS", x.event(0, 2) + x.event(1, 2), 0);
         x.nextDays(7);
         Check.is("refused by the grace period", x.resize(3, 4, 1), 6);
         Check.is("smaller is not refused", x.resize(3, 5, 6), 0);
@@ -350,6 +356,21 @@ public final class FileOperationsTest {
         Check.is("not for the user", x.refusals(1), 2);
         x.setLimits(7, 1, 0, 2);
         Check.is("no longer refused", x.move(0, 0, 1, 1), 0);
+    }
+
+    private static void moveRefusedElsewhere() {
+        StorageQuotas x = new StorageQuotas();
+        x.create(0, 0, 0, 0, 10);
+        x.setLimits(4, 0, 0, 9);
+        x.setLimits(7, 1, 0, 1);
+        x.create(3, 1, 0, 1, 0);
+        Check.is("by the user", x.move(0, 0, 4, 1), 1);
+        Check.is("counted for the user", x.refusals(4), 1);
+        Check.is("logged for the user", x.event(0, 1), 4);
+        Check.is("by the group", x.move(0, 0, 5, 1), 7);
+        Check.is("counted for the group", x.refusals(7), 1);
+        Check.is("logged for the group", x.event(0, 1), 7);
+        Check.is("logged for FILES", x.event(0, 2), 1);
     }
 
     private static void moveThrows() {

@@ -23,6 +23,9 @@ public final class ForecastTest {
         x.setLimits(5, 1, 0, 1);
         Check.is("the user's files", x.ifCreated(5, 2, 0), 3);
         Check.is("another user", x.ifCreated(4, 2, 0), 0);
+        x.setLimits(5, 1, 0, 2);
+        x.setLimits(8, 1, 0, 2);
+        Check.is("at the hard limits for FILES", x.ifCreated(5, 2, 0), 0);
         x.setLimits(8, 0, 2, 0);
         x.nextDays(7);
         Check.is("the group's blocks", x.ifCreated(4, 2, 1), 6);
@@ -33,7 +36,10 @@ public final class ForecastTest {
         Check.is("an exempt user", x.ifCreated(4, 2, 5000), 0);
         Check.is("nothing is logged", x.event(0, 0), 3);
         Check.is("nothing is counted", x.refusals(5) + x.refusals(8), 0);
-        Check.is("not undoable", x.savedStates(), 6);
+        int states = x.savedStates();
+        x.undo();
+        x.ifCreated(4, 2, 0);
+        Check.is("not undoable", x.savedStates(), states - 1);
         for (int i = 1; i < 60; i++) {
             x.create(0, 0, 1, i, 0);
         }

@@ -1,17 +1,5 @@
-import java.util.regex.Matcher;
-import java.util.regex.Pattern;
-
 /** Promises 11 to 14: appendText, clearText, errorPosition, runText. */
 public final class TextTest {
-    private static final String USER = "[0-5]";
-    private static final String GROUP = "[0-2]";
-    private static final String FILE = "[0-9],(0|[1-9][0-9]?)";
-    private static final String SIZE = "(0|5000|[1-4][0-9]{3}|[1-9][0-9]{0,2})";
-    private static final String COMMAND = "(c" + USER + "," + GROUP + "," + FILE + "," + SIZE
-            + "|r" + FILE + "," + SIZE + "|d" + FILE + "|m" + FILE + "," + USER + "," + GROUP
-            + "|n(100|[1-9][0-9]?))";
-    private static final Pattern VALID = Pattern.compile(COMMAND + "(;" + COMMAND + ")*");
-
     public static void main(String[] args) {
         appendText();
         appendTextThrows();
@@ -91,17 +79,6 @@ public final class TextTest {
         }
     }
 
-    /** The due error position, by the words of the document: which beginnings can become a valid text. */
-    private static int dueError(String text) {
-        for (int i = 0; i < text.length(); i++) {
-            Matcher matcher = VALID.matcher(text.substring(0, i + 1));
-            if (!matcher.matches() && !matcher.hitEnd()) {
-                return i;
-            }
-        }
-        return VALID.matcher(text).matches() ? -1 : text.length();
-    }
-
     private static void everyCharacterBehindEveryBeginning() {
         String[] texts = {"c5,2,9,99,5000;n1", "c0,0,0,0,0;d0,0", "c3,1,4,50,499;r1,1,1", "r9,10,5000;c", "d7,70;m",
             "m1,11,4,1;r", "n100;d", "n10;n", "n99;n9"};
@@ -109,7 +86,7 @@ public final class TextTest {
             for (int i = 0; i <= whole.length(); i++) {
                 for (int code = 32; code <= 126; code++) {
                     String text = whole.substring(0, i) + (char) code;
-                    Check.is(text, Texts.errorOf(text), dueError(text));
+                    Check.is(text, Texts.errorOf(text), Grammar.errorOf(text));
                 }
             }
         }

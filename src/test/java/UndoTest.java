@@ -2,6 +2,7 @@
 public final class UndoTest {
     public static void main(String[] args) {
         everythingIsUndone();
+        theWholeLogIsUndone();
         undoOrder();
         sixStates();
         undoThrows();
@@ -53,6 +54,36 @@ public final class UndoTest {
             x.setGrace(0, 7);
         }
         Check.is("the text stays", x.textLength(), 12);
+    }
+
+    /** So many other events come between that none of the old ones is left where it was. */
+    private static void theWholeLogIsUndone() {
+        StorageQuotas x = busy();
+        x.create(1, 1, 0, 0, 50);
+        x.save(0);
+        String before = Picture.ofState(x);
+        Texts.put(x, "c0,0,5,5,5;r5,5,6;r5,5,7;r5,5,8;r5,5,9;r5,5,10;r5,5,11;r5,5,12;n1;r5,5,13;r5,5,14;r5,5,15");
+        x.setLimits(0, 0, 0, 5);
+        x.runText();
+        x.runText();
+        for (int i = 10; i < 20; i++) {
+            x.resize(5, 5, i);
+        }
+        Check.is("the old events are gone", x.event(11, 1), 0);
+        x.restore(0);
+        Check.isSame("restored", Picture.ofState(x), before);
+        x.setLimits(0, 0, 0, 4);
+        x.runText();
+        x.clearText();
+        Texts.put(x, "c0,0,5,5,5;c0,0,5,6,6;c0,0,5,7,7;c0,0,5,8,8;c0,0,5,9,9;c0,0,5,10,10;c0,0,5,11,11");
+        x.runText();
+        x.runText();
+        Check.is("they are gone again", x.event(11, 1), 0);
+        x.undo();
+        x.undo();
+        x.undo();
+        x.undo();
+        Check.isSame("undone", Picture.ofState(x), before);
     }
 
     private static void undoOrder() {
