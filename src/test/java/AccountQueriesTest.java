@@ -183,6 +183,13 @@ public final class AccountQueriesTest {
         x.setLimits(8, 0, 81, 0);
         Check.is("of a group, one", x.fewestDeletions(8), 1);
         Check.is("the files stay", x.fileCount(), 8);
+        StorageQuotas z = new StorageQuotas();
+        z.create(0, 0, 0, 0, 3);
+        z.create(0, 0, 0, 1, 4);
+        z.create(0, 0, 0, 2, 100);
+        z.delete(0, 2);
+        z.setLimits(0, 0, 2, 0);
+        Check.is("a deleted file does not count", z.fewestDeletions(0), 2);
         StorageQuotas y = new StorageQuotas();
         for (int i = 0; i < 60; i++) {
             y.create(0, 0, 0, i, 1);
