@@ -1,12 +1,6 @@
 /** Promises 18 to 26: the queries about accounts. */
 public final class AccountQueriesTest {
-    private interface PairCall {
-        int answer(StorageQuotas x, int account, int resource);
-    }
-
     public static void main(String[] args) {
-        pairsThrow();
-        accountsThrow();
         usages();
         limits();
         graces();
@@ -17,35 +11,8 @@ public final class AccountQueriesTest {
         Check.end();
     }
 
-    private static void pairsThrow() {
-        StorageQuotas x = new StorageQuotas();
-        PairCall[] calls = {(y, a, r) -> y.usage(a, r), (y, a, r) -> y.scannedUsage(a, r),
-            (y, a, r) -> y.softLimit(a, r), (y, a, r) -> y.hardLimit(a, r), (y, a, r) -> y.graceStart(a, r),
-            (y, a, r) -> y.graceLeft(a, r), (y, a, r) -> y.available(a, r)};
-        int[] due = {0, 0, 0, 0, -1, -1, -2};
-        int[][] pairs = {{-1, 0}, {9, 0}, {9, 1}, {0, -1}, {0, 2}, {8, 2}, {1, -1}, {-1, 2}, {Integer.MAX_VALUE, 0},
-            {Integer.MIN_VALUE, 1}, {0, Integer.MAX_VALUE}, {0, Integer.MIN_VALUE}};
-        for (int i = 0; i < calls.length; i++) {
-            PairCall call = calls[i];
-            for (int[] p : pairs) {
-                Check.isRefused("pair query " + i, Check.INDEX, x, () -> call.answer(x, p[0], p[1]));
-            }
-            Check.is("the first pair", call.answer(x, 0, 0), due[i]);
-            Check.is("the last pair", call.answer(x, 8, 1), due[i]);
-        }
-    }
-
-    private static void accountsThrow() {
-        StorageQuotas x = new StorageQuotas();
-        for (int account : new int[] {-1, 9, Integer.MAX_VALUE, Integer.MIN_VALUE}) {
-            Check.isRefused("refusals", Check.INDEX, x, () -> x.refusals(account));
-            Check.isRefused("fewestDeletions", Check.INDEX, x, () -> x.fewestDeletions(account));
-        }
-        Check.is("the last account", x.refusals(8) + x.fewestDeletions(8), 0);
-    }
-
     private static void usages() {
-        StorageQuotas x = new StorageQuotas();
+        Story x = new Story();
         x.create(0, 1, 0, 0, 3);
         x.create(0, 2, 0, 1, 4);
         x.create(5, 2, 0, 2, 5);
@@ -65,7 +32,7 @@ public final class AccountQueriesTest {
     }
 
     private static void limits() {
-        StorageQuotas x = new StorageQuotas();
+        Story x = new Story();
         for (int account = 0; account < 9; account++) {
             x.setLimits(account, 0, 10 + account, 20 + account);
             x.setLimits(account, 1, 30 + account, 40 + account);
@@ -79,7 +46,7 @@ public final class AccountQueriesTest {
     }
 
     private static void graces() {
-        StorageQuotas x = new StorageQuotas();
+        Story x = new Story();
         x.setGrace(1, 10);
         x.create(4, 0, 0, 0, 9);
         x.create(4, 0, 0, 1, 9);
@@ -106,7 +73,7 @@ public final class AccountQueriesTest {
     }
 
     private static void available() {
-        StorageQuotas x = new StorageQuotas();
+        Story x = new Story();
         x.create(0, 0, 0, 0, 10);
         Check.is("no limit", x.available(0, 0), -2);
         x.setLimits(0, 0, 20, 0);
@@ -136,7 +103,7 @@ public final class AccountQueriesTest {
     }
 
     private static void refusals() {
-        StorageQuotas x = new StorageQuotas();
+        Story x = new Story();
         x.setLimits(3, 0, 0, 5);
         x.setLimits(3, 1, 0, 1);
         x.create(3, 0, 0, 0, 6);
@@ -160,7 +127,7 @@ public final class AccountQueriesTest {
     }
 
     private static void fewestDeletions() {
-        StorageQuotas x = new StorageQuotas();
+        Story x = new Story();
         int[] sizes = {10, 3, 40, 3, 0, 25};
         for (int i = 0; i < sizes.length; i++) {
             x.create(1, 2, i, i, sizes[i]);
@@ -183,14 +150,14 @@ public final class AccountQueriesTest {
         x.setLimits(8, 0, 81, 0);
         Check.is("of a group, one", x.fewestDeletions(8), 1);
         Check.is("the files stay", x.fileCount(), 8);
-        StorageQuotas z = new StorageQuotas();
+        Story z = new Story();
         z.create(0, 0, 0, 0, 3);
         z.create(0, 0, 0, 1, 4);
         z.create(0, 0, 0, 2, 100);
         z.delete(0, 2);
         z.setLimits(0, 0, 2, 0);
         Check.is("a deleted file does not count", z.fewestDeletions(0), 2);
-        StorageQuotas y = new StorageQuotas();
+        Story y = new Story();
         for (int i = 0; i < 60; i++) {
             y.create(0, 0, 0, i, 1);
         }
@@ -200,7 +167,7 @@ public final class AccountQueriesTest {
     }
 
     private static void queriesChangeNothing() {
-        StorageQuotas x = new StorageQuotas();
+        Story x = new Story();
         x.setLimits(0, 0, 5, 9);
         x.create(0, 0, 0, 0, 6);
         x.create(0, 0, 0, 1, 6);

@@ -3,20 +3,16 @@ public final class AdministrationTest {
     public static void main(String[] args) {
         setLimits();
         setLimitsReviewsOne();
-        setLimitsThrows();
         setGrace();
-        setGraceThrows();
         restartGrace();
-        restartGraceThrows();
         setExempt();
         nextDays();
         nextDaysOrder();
-        nextDaysThrows();
         Check.end();
     }
 
     private static void setLimits() {
-        StorageQuotas x = new StorageQuotas();
+        Story x = new Story();
         x.create(2, 1, 0, 0, 30);
         Check.is("answers the usage for BLOCKS", x.setLimits(2, 0, 40, 50), 30);
         Check.is("answers the usage for FILES", x.setLimits(7, 1, 1, 1), 1);
@@ -35,7 +31,7 @@ public final class AdministrationTest {
     }
 
     private static void setLimitsReviewsOne() {
-        StorageQuotas x = new StorageQuotas();
+        Story x = new Story();
         x.create(2, 1, 0, 0, 30);
         x.nextDays(4);
         x.setLimits(2, 0, 30, 0);
@@ -59,22 +55,8 @@ public final class AdministrationTest {
         Check.is("cleared again", x.event(0, 0), 2);
     }
 
-    private static void setLimitsThrows() {
-        StorageQuotas x = new StorageQuotas();
-        int[][] pairs = {{-1, 0}, {9, 0}, {0, -1}, {0, 2}, {Integer.MAX_VALUE, 0}, {0, Integer.MIN_VALUE}};
-        for (int[] p : pairs) {
-            Check.isRefused("setLimits, no such pair", Check.INDEX, x, () -> x.setLimits(p[0], p[1], 1, 2));
-            Check.isRefused("setLimits, first index", Check.INDEX, x, () -> x.setLimits(p[0], p[1], 2, 1));
-        }
-        int[][] limits = {{-1, 0}, {0, -1}, {100001, 0}, {0, 100001}, {2, 1}, {100000, 99999}, {-1, 1}, {1, -1},
-            {100001, 100001}, {Integer.MAX_VALUE, 0}, {0, Integer.MIN_VALUE}};
-        for (int[] p : limits) {
-            Check.isRefused("setLimits, limits", Check.ARGUMENT, x, () -> x.setLimits(1, 1, p[0], p[1]));
-        }
-    }
-
     private static void setGrace() {
-        StorageQuotas x = new StorageQuotas();
+        Story x = new Story();
         x.setLimits(0, 0, 1, 0);
         x.create(0, 0, 0, 0, 2);
         x.nextDays(3);
@@ -94,19 +76,8 @@ public final class AdministrationTest {
         Check.is("the length of BLOCKS", x.graceLength(0), 1);
     }
 
-    private static void setGraceThrows() {
-        StorageQuotas x = new StorageQuotas();
-        for (int resource : new int[] {-1, 2, Integer.MAX_VALUE, Integer.MIN_VALUE}) {
-            Check.isRefused("setGrace, resource", Check.INDEX, x, () -> x.setGrace(resource, 5));
-            Check.isRefused("setGrace, first resource", Check.INDEX, x, () -> x.setGrace(resource, 0));
-        }
-        for (int days : new int[] {-1, 0, 61, Integer.MAX_VALUE, Integer.MIN_VALUE}) {
-            Check.isRefused("setGrace, days", Check.ARGUMENT, x, () -> x.setGrace(1, days));
-        }
-    }
-
     private static void restartGrace() {
-        StorageQuotas x = new StorageQuotas();
+        Story x = new Story();
         x.setLimits(7, 1, 1, 0);
         x.nextDays(2);
         x.create(0, 1, 0, 0, 0);
@@ -124,22 +95,8 @@ public final class AdministrationTest {
         Check.is("it ends again", x.nextDays(7), 1);
     }
 
-    private static void restartGraceThrows() {
-        StorageQuotas x = new StorageQuotas();
-        x.setLimits(0, 0, 1, 0);
-        x.create(0, 0, 0, 0, 2);
-        int[][] pairs = {{-1, 0}, {9, 0}, {0, -1}, {0, 2}, {Integer.MIN_VALUE, 0}, {0, Integer.MAX_VALUE}};
-        for (int[] p : pairs) {
-            Check.isRefused("restartGrace, no such pair", Check.INDEX, x, () -> x.restartGrace(p[0], p[1]));
-        }
-        Check.isRefused("restartGrace, FILES", Check.STATE, x, () -> x.restartGrace(0, 1));
-        Check.isRefused("restartGrace, account", Check.STATE, x, () -> x.restartGrace(6, 0));
-        x.resize(0, 0, 1);
-        Check.isRefused("restartGrace, cleared", Check.STATE, x, () -> x.restartGrace(0, 0));
-    }
-
     private static void setExempt() {
-        StorageQuotas x = new StorageQuotas();
+        Story x = new Story();
         Check.is("the first", x.setExempt(5, true), 1);
         Check.is("undoable", x.savedStates(), 1);
         Check.is("exempt", x.isExempt(5), true);
@@ -154,14 +111,10 @@ public final class AdministrationTest {
             x.setExempt(user, true);
         }
         Check.is("all", x.setExempt(3, true), 6);
-        for (int user : new int[] {-1, 6, 8, Integer.MAX_VALUE, Integer.MIN_VALUE}) {
-            Check.isRefused("setExempt, user", Check.INDEX, x, () -> x.setExempt(user, true));
-            Check.isRefused("setExempt, user", Check.INDEX, x, () -> x.setExempt(user, false));
-        }
     }
 
     private static void nextDays() {
-        StorageQuotas x = new StorageQuotas();
+        Story x = new Story();
         Check.is("no grace period", x.nextDays(1), 0);
         Check.is("the day", x.day(), 1);
         Check.is("undoable as one call", x.savedStates(), 1);
@@ -193,7 +146,7 @@ public final class AdministrationTest {
     }
 
     private static void nextDaysOrder() {
-        StorageQuotas x = new StorageQuotas();
+        Story x = new Story();
         x.setGrace(1, 5);
         x.create(2, 2, 0, 0, 9);
         x.create(2, 2, 0, 1, 9);
@@ -215,23 +168,5 @@ public final class AdministrationTest {
         Check.is("both resources end", x.nextDays(7), 2);
         Check.is("BLOCKS first", x.event(1, 2), 0);
         Check.is("then FILES", x.event(0, 2), 1);
-    }
-
-    private static void nextDaysThrows() {
-        StorageQuotas x = new StorageQuotas();
-        for (int days : new int[] {-1, 0, 101, Integer.MAX_VALUE, Integer.MIN_VALUE}) {
-            Check.isRefused("nextDays, days", Check.ARGUMENT, x, () -> x.nextDays(days));
-        }
-        for (int i = 0; i < 99; i++) {
-            x.nextDays(100);
-        }
-        x.nextDays(99);
-        Check.is("near the end", x.day(), 9999);
-        Check.isRefused("nextDays, beyond the end", Check.STATE, x, () -> x.nextDays(2));
-        Check.isRefused("nextDays, the days first", Check.ARGUMENT, x, () -> x.nextDays(101));
-        Check.is("to the last day", x.nextDays(1), 0);
-        Check.is("the last day", x.day(), 10000);
-        Check.isRefused("nextDays, on the last day", Check.STATE, x, () -> x.nextDays(1));
-        Check.isRefused("nextDays, the days first", Check.ARGUMENT, x, () -> x.nextDays(0));
     }
 }

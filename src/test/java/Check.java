@@ -41,8 +41,19 @@ final class Check {
         }
     }
 
+    /** The call must answer, whatever it answers. */
+    static void isTaken(String what, Call call) {
+        checks++;
+        try {
+            call.answer();
+        } catch (RuntimeException e) {
+            wrong++;
+            System.out.println(what + ": got " + e.getClass().getName() + ", due is an answer");
+        }
+    }
+
     /** As isThrown, and the call must have changed nothing. */
-    static void isRefused(String what, Class<? extends RuntimeException> due, StorageQuotas manager, Call call) {
+    static void isRefused(String what, Class<? extends RuntimeException> due, Story manager, Call call) {
         String before = Picture.of(manager);
         isThrown(what, due, call);
         isSame(what + " changes nothing", Picture.of(manager), before);

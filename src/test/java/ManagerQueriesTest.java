@@ -6,43 +6,36 @@ public final class ManagerQueriesTest {
         isExempt();
         graces();
         events();
-        eventThrows();
         savedStatesAndText();
         Check.end();
     }
 
     private static void day() {
-        StorageQuotas x = new StorageQuotas();
+        Story x = new Story();
         x.nextDays(100);
         x.nextDays(3);
         Check.is("the day", x.day(), 103);
     }
 
     private static void graceLength() {
-        StorageQuotas x = new StorageQuotas();
+        Story x = new Story();
         x.setGrace(0, 1);
         x.setGrace(1, 60);
         Check.is("of BLOCKS", x.graceLength(0), 1);
         Check.is("of FILES", x.graceLength(1), 60);
-        for (int resource : new int[] {-1, 2, Integer.MAX_VALUE, Integer.MIN_VALUE}) {
-            Check.isRefused("graceLength", Check.INDEX, x, () -> x.graceLength(resource));
-        }
     }
 
     private static void isExempt() {
-        StorageQuotas x = new StorageQuotas();
+        Story x = new Story();
         x.setExempt(2, true);
         x.setExempt(5, true);
         for (int user = 0; user < 6; user++) {
             Check.is("user " + user, x.isExempt(user), user == 2 || user == 5);
         }
-        for (int user : new int[] {-1, 6, Integer.MAX_VALUE, Integer.MIN_VALUE}) {
-            Check.isRefused("isExempt", Check.INDEX, x, () -> x.isExempt(user) ? 1 : 0);
-        }
     }
 
     private static void graces() {
-        StorageQuotas x = new StorageQuotas();
+        Story x = new Story();
         x.create(0, 0, 0, 0, 5);
         x.create(0, 0, 0, 1, 5);
         x.setLimits(0, 0, 1, 0);
@@ -70,7 +63,7 @@ public final class ManagerQueriesTest {
     }
 
     private static void events() {
-        StorageQuotas x = new StorageQuotas();
+        Story x = new Story();
         x.setLimits(8, 1, 0, 1);
         x.create(0, 2, 0, 0, 0);
         for (int i = 1; i <= 15; i++) {
@@ -95,21 +88,8 @@ public final class ManagerQueriesTest {
         Check.is("still twelve", x.eventCount(), 12);
     }
 
-    private static void eventThrows() {
-        StorageQuotas x = new StorageQuotas();
-        for (int index : new int[] {-1, Integer.MIN_VALUE}) {
-            Check.isRefused("event, index", Check.INDEX, x, () -> x.event(index, 0));
-            Check.isRefused("event, index first", Check.INDEX, x, () -> x.event(index, 4));
-        }
-        for (int part : new int[] {-1, 4, Integer.MAX_VALUE, Integer.MIN_VALUE}) {
-            Check.isRefused("event, part", Check.ARGUMENT, x, () -> x.event(0, part));
-            Check.isRefused("event, part", Check.ARGUMENT, x, () -> x.event(20, part));
-        }
-        Check.is("an empty log", x.event(0, 3), -1);
-    }
-
     private static void savedStatesAndText() {
-        StorageQuotas x = new StorageQuotas();
+        Story x = new Story();
         x.setGrace(0, 7);
         x.setGrace(0, 7);
         Check.is("two saved states", x.savedStates(), 2);

@@ -4,35 +4,53 @@ final class Picture {
     }
 
     /** The state, and what stands beside it: the text buffer and the number of saved states. */
-    static String of(StorageQuotas x) {
-        return ofState(x) + " saved " + x.savedStates() + " text " + x.textLength() + " error " + x.errorPosition();
+    static String of(Story story) {
+        Story x = story.again();
+        return ofState(story) + " saved " + x.savedStates() + " text " + x.textLength() + " error " + x.errorPosition();
     }
 
-    static String ofState(StorageQuotas x) {
-        StringBuilder b = new StringBuilder();
-        b.append("day ").append(x.day());
+    static String ofState(Story story) {
+        StringBuilder b = new StringBuilder(ofFilesAndGraces(story));
+        Story x = story.again();
+        b.append("\n  day ").append(x.day());
         for (int resource = 0; resource < 2; resource++) {
             b.append(" length ").append(x.graceLength(resource));
         }
         for (int user = 0; user < 6; user++) {
             b.append(x.isExempt(user) ? " exempt" : " -");
         }
-        b.append(" running ").append(x.runningGraces()).append(" over ").append(x.overGraces());
+        b.append("\n  refusals");
+        for (int account = 0; account < 9; account++) {
+            b.append(' ').append(x.refusals(account));
+        }
+        addEvents(b, x);
+        return b.toString();
+    }
+
+    /** What a refused operation leaves as it is: all but the numbers of refusals and the log. */
+    static String ofFilesAndGraces(Story story) {
+        StringBuilder b = new StringBuilder();
+        addAccounts(b, story.again());
+        for (int directory = 0; directory < 10; directory++) {
+            addDirectory(b, story.again(), directory);
+        }
+        return b.toString();
+    }
+
+    private static void addAccounts(StringBuilder b, Story x) {
+        b.append("running ").append(x.runningGraces()).append(" over ").append(x.overGraces());
         for (int account = 0; account < 9; account++) {
             b.append("\n  account ").append(account);
             for (int resource = 0; resource < 2; resource++) {
                 addPair(b, x, account, resource);
             }
-            b.append(" refusals ").append(x.refusals(account));
             b.append(" deletions ").append(x.fewestDeletions(account));
             b.append(" largest ").append(x.largestFile(account));
         }
-        addFiles(b, x);
-        addEvents(b, x);
-        return b.toString();
+        b.append("\n  files ").append(x.fileCount());
     }
 
-    private static void addPair(StringBuilder b, StorageQuotas x, int account, int resource) {
+    private static void addPair(StringBuilder b, Story x, int account, int resource) {
         b.append(" [").append(x.usage(account, resource));
         b.append(' ').append(x.scannedUsage(account, resource));
         b.append(' ').append(x.softLimit(account, resource));
@@ -42,23 +60,20 @@ final class Picture {
         b.append(' ').append(x.available(account, resource)).append(']');
     }
 
-    private static void addFiles(StringBuilder b, StorageQuotas x) {
-        b.append("\n  files ").append(x.fileCount());
-        for (int directory = 0; directory < 10; directory++) {
-            b.append(" sum ").append(x.directorySize(directory));
-            for (int name = 0; name < 100; name++) {
-                if (x.sizeOf(directory, name) != -1 || x.ownerOf(directory, name) != -1
-                        || x.groupOf(directory, name) != -1) {
-                    b.append(' ').append(directory).append('/').append(name);
-                    b.append('=').append(x.sizeOf(directory, name));
-                    b.append(',').append(x.ownerOf(directory, name));
-                    b.append(',').append(x.groupOf(directory, name));
-                }
+    private static void addDirectory(StringBuilder b, Story x, int directory) {
+        b.append(" sum ").append(x.directorySize(directory));
+        for (int name = 0; name < 100; name++) {
+            int size = x.sizeOf(directory, name);
+            int owner = x.ownerOf(directory, name);
+            int group = x.groupOf(directory, name);
+            if (size != -1 || owner != -1 || group != -1) {
+                b.append(' ').append(directory).append('/').append(name);
+                b.append('=').append(size).append(',').append(owner).append(',').append(group);
             }
         }
     }
 
-    private static void addEvents(StringBuilder b, StorageQuotas x) {
+    private static void addEvents(StringBuilder b, Story x) {
         b.append("\n  events ").append(x.eventCount());
         for (int index = 0; index < 13; index++) {
             b.append(' ').append(x.event(index, 0));

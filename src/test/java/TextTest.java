@@ -2,7 +2,6 @@
 public final class TextTest {
     public static void main(String[] args) {
         appendText();
-        appendTextThrows();
         clearText();
         validTexts();
         wrongTexts();
@@ -11,12 +10,11 @@ public final class TextTest {
         runText();
         runTextStops();
         runTextRefused();
-        runTextThrows();
         Check.end();
     }
 
     private static void appendText() {
-        StorageQuotas x = new StorageQuotas();
+        Story x = new Story();
         Check.is("the lowest", x.appendText(32), 1);
         Check.is("the greatest", x.appendText(126), 2);
         Check.is("the length", x.textLength(), 2);
@@ -27,23 +25,8 @@ public final class TextTest {
         Check.is("the full length", x.textLength(), 100);
     }
 
-    private static void appendTextThrows() {
-        StorageQuotas x = new StorageQuotas();
-        int[] codes = {31, 127, -1, 0, 128, 'c' + 65536, Integer.MAX_VALUE, Integer.MIN_VALUE};
-        for (int code : codes) {
-            Check.isRefused("appendText, code", Check.ARGUMENT, x, () -> x.appendText(code));
-        }
-        for (int i = 0; i < 100; i++) {
-            x.appendText('n');
-        }
-        Check.isRefused("appendText, full", Check.STATE, x, () -> x.appendText('n'));
-        for (int code : codes) {
-            Check.isRefused("appendText, code first", Check.ARGUMENT, x, () -> x.appendText(code));
-        }
-    }
-
     private static void clearText() {
-        StorageQuotas x = new StorageQuotas();
+        Story x = new Story();
         Check.is("of an empty text", x.clearText(), 0);
         Texts.put(x, "n12");
         Check.is("the length before", x.clearText(), 3);
@@ -102,7 +85,7 @@ public final class TextTest {
         Check.is("100 characters, too short", Texts.errorOf(longest + ";n"), 100);
         Check.is("100 characters, wrong", Texts.errorOf(longest + ";;"), 99);
         Check.is("100 characters, valid", Texts.errorOf(longest + "00"), -1);
-        StorageQuotas x = new StorageQuotas();
+        Story x = new Story();
         Check.is("run of 33 commands", Texts.run(x, longest.toString()), 33);
         Check.is("each of them", x.day(), 33);
         Check.is("run of 100 characters", Texts.run(x, longest + "00"), 33);
@@ -110,7 +93,7 @@ public final class TextTest {
     }
 
     private static void runText() {
-        StorageQuotas x = new StorageQuotas();
+        Story x = new Story();
         Check.is("create", Texts.run(x, "c5,2,9,99,5000"), 1);
         Check.is("undoable", x.savedStates(), 1);
         Check.is("the text stays", x.textLength(), 14);
@@ -145,7 +128,7 @@ public final class TextTest {
     private static void runTextStops() {
         String[] stops = {"c0,0,0,0,9", "r0,1,1", "d0,1", "m0,1,0,0", "n100"};
         for (String stop : stops) {
-            StorageQuotas x = new StorageQuotas();
+            Story x = new Story();
             x.create(1, 1, 0, 0, 1);
             for (int i = 0; i < 99; i++) {
                 x.nextDays(100);
@@ -161,19 +144,19 @@ public final class TextTest {
             x.undo();
             Check.isSame("undone", Picture.ofState(x), before);
         }
-        StorageQuotas y = new StorageQuotas();
+        Story y = new Story();
         for (int i = 0; i < 59; i++) {
             y.create(0, 0, 0, i, 0);
         }
         Check.is("sixty files are the bound", Texts.run(y, "c0,0,1,0,0;c0,0,1,1,0;n1"), 1);
         Check.is("no day passes", y.day(), 0);
         Check.is("room again", Texts.run(y, "d1,0;c0,0,1,1,0;n1"), 3);
-        StorageQuotas z = new StorageQuotas();
+        Story z = new Story();
         Check.is("none executed is saved as well", Texts.run(z, "d0,0") * 10 + z.savedStates(), 1);
     }
 
     private static void runTextRefused() {
-        StorageQuotas x = new StorageQuotas();
+        Story x = new Story();
         x.setLimits(0, 0, 5, 10);
         Check.is("a refusal counts as executed", Texts.run(x, "c0,0,0,0,11;c0,0,0,1,6;n6;r0,1,11;n1;r0,1,7;n1"), 7);
         Check.is("the refusals", x.refusals(0), 3);
@@ -187,14 +170,5 @@ public final class TextTest {
         }
         Check.is("a refused move", Texts.run(x, "c1,1,1,1,9;m1,1,0,0;d1,1"), 3);
         Check.is("refused", x.refusals(0), 4);
-    }
-
-    private static void runTextThrows() {
-        StorageQuotas x = new StorageQuotas();
-        Check.isRefused("runText, empty", Check.STATE, x, () -> x.runText());
-        for (String text : new String[] {"n", "n1;", "n1;x", "c0,0,0,0,0;d0", "n101", "n1 "}) {
-            Texts.put(x, text);
-            Check.isRefused("runText, " + text, Check.STATE, x, () -> x.runText());
-        }
     }
 }

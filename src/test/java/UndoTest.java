@@ -5,16 +5,13 @@ public final class UndoTest {
         theWholeLogIsUndone();
         undoOrder();
         sixStates();
-        undoThrows();
         saveAndRestore();
         slotsKeepTheirCopies();
-        saveThrows();
-        restoreThrows();
         Check.end();
     }
 
-    private static StorageQuotas busy() {
-        StorageQuotas x = new StorageQuotas();
+    private static Story busy() {
+        Story x = new Story();
         x.setLimits(1, 0, 5, 50);
         x.setLimits(7, 1, 1, 3);
         x.create(1, 1, 2, 3, 10);
@@ -27,7 +24,7 @@ public final class UndoTest {
 
     private static void everythingIsUndone() {
         Check.Call[] calls = new Check.Call[12];
-        StorageQuotas x = busy();
+        Story x = busy();
         Texts.put(x, "d2,3;n5;d2,3");
         calls[0] = () -> x.create(3, 0, 0, 0, 7);
         calls[1] = () -> x.create(1, 1, 0, 0, 7);
@@ -58,7 +55,7 @@ public final class UndoTest {
 
     /** So many other events come between that none of the old ones is left where it was. */
     private static void theWholeLogIsUndone() {
-        StorageQuotas x = busy();
+        Story x = busy();
         x.create(1, 1, 0, 0, 50);
         x.save(0);
         String before = Picture.ofState(x);
@@ -87,7 +84,7 @@ public final class UndoTest {
     }
 
     private static void undoOrder() {
-        StorageQuotas x = new StorageQuotas();
+        Story x = new Story();
         x.nextDays(1);
         x.nextDays(2);
         x.nextDays(4);
@@ -104,7 +101,7 @@ public final class UndoTest {
     }
 
     private static void sixStates() {
-        StorageQuotas x = new StorageQuotas();
+        Story x = new Story();
         for (int i = 1; i <= 20; i++) {
             x.nextDays(1);
             Check.is("saved", x.savedStates(), Math.min(i, 6));
@@ -132,19 +129,8 @@ public final class UndoTest {
         }
     }
 
-    private static void undoThrows() {
-        StorageQuotas x = new StorageQuotas();
-        Check.isRefused("undo, none", Check.STATE, x, () -> x.undo());
-        x.setExempt(0, false);
-        Check.is("a call that changes nothing is saved", x.undo(), 0);
-        Check.isRefused("undo, none again", Check.STATE, x, () -> x.undo());
-        x.save(0);
-        x.appendText('n');
-        Check.isRefused("undo, nothing undoable", Check.STATE, x, () -> x.undo());
-    }
-
     private static void saveAndRestore() {
-        StorageQuotas x = busy();
+        Story x = busy();
         String first = Picture.ofState(x);
         int states = x.savedStates();
         Check.is("save answers the day", x.save(1), 8);
@@ -174,7 +160,7 @@ public final class UndoTest {
     }
 
     private static void slotsKeepTheirCopies() {
-        StorageQuotas x = busy();
+        Story x = busy();
         x.save(0);
         String first = Picture.ofState(x);
         x.restore(0);
@@ -183,28 +169,10 @@ public final class UndoTest {
         x.setLimits(1, 0, 0, 0);
         x.restore(0);
         Check.isSame("the slot is a copy", Picture.ofState(x), first);
-        StorageQuotas y = new StorageQuotas();
+        Story y = new Story();
         Check.is("on a new object", y.save(0), 0);
         y.nextDays(3);
         Check.is("the first day", y.restore(0), 0);
         Check.is("two are saved", y.savedStates(), 2);
-    }
-
-    private static void saveThrows() {
-        StorageQuotas x = busy();
-        for (int slot : new int[] {-1, 2, Integer.MAX_VALUE, Integer.MIN_VALUE}) {
-            Check.isRefused("save, slot", Check.INDEX, x, () -> x.save(slot));
-        }
-        Check.isThrown("no slot is filled", Check.STATE, () -> x.restore(0));
-        Check.isThrown("no slot is filled", Check.STATE, () -> x.restore(1));
-    }
-
-    private static void restoreThrows() {
-        StorageQuotas x = busy();
-        x.save(0);
-        for (int slot : new int[] {-1, 2, Integer.MAX_VALUE, Integer.MIN_VALUE}) {
-            Check.isRefused("restore, slot", Check.INDEX, x, () -> x.restore(slot));
-        }
-        Check.isRefused("restore, empty", Check.STATE, x, () -> x.restore(1));
     }
 }
