@@ -14,6 +14,8 @@ public final class ForecastTermsTest {
         theEarlierAccountDecides();
         hardLimitDuringAGracePeriod();
         exemptUsers();
+        exemptForEachReason();
+        asTheDaysTell();
         otherAccountsDoNotMatter();
         Check.end();
     }
@@ -98,12 +100,11 @@ public final class ForecastTermsTest {
 
     /** "The limit of the current day does not matter." */
     private static void theDayDoesNotMatter(int account) {
-        for (int last : new int[] {98, 99, 100}) {
+        for (int today : new int[] {9600, 9601, 9998, 9999, 10000}) {
             Story x = new Story();
-            for (int i = 0; i < 99; i++) {
-                x.nextDays(100);
+            for (int left = today; left > 0; left -= 100) {
+                x.nextDays(Math.min(left, 100));
             }
-            x.nextDays(last);
             x.setLimits(account, 0, 0, 399);
             Check.is("a hard limit", x.refusedOnDay(2, 1, 1), 400);
             x.setLimits(account, 0, 0, 400);
@@ -112,7 +113,14 @@ public final class ForecastTermsTest {
             Check.is("a grace period", x.refusedOnDay(2, 1, 1), 400);
             x.setLimits(account, 0, 1, 1);
             Check.is("two days", x.refusedOnDay(2, 1, 1), 2);
-            Check.is("the day stays", x.day(), 9900 + last);
+            x.setLimits(account, 0, 1, 0);
+            String before = Picture.of(x);
+            Check.is("a whole grace period", x.refusedOnDay(2, 1, 2), 8);
+            Check.isSame("nothing changes", Picture.of(x), before);
+            Check.is("the day stays", x.day(), today);
+            if (today == 10000) {
+                Check.isThrown("for the days that pass it does", Check.STATE, () -> x.nextDays(1));
+            }
         }
     }
 
@@ -150,6 +158,10 @@ public final class ForecastTermsTest {
         Check.is("the grace period first", x.refusedOnDay(2, 1, 1), 18);
     }
 
+    /**
+     * "Checked like the resizing of a file of this owner"; term 5: "the acting user is the owner"; term 4: "an
+     * operation whose acting user is exempt is not checked at all", for the group as little as for the user.
+     */
     private static void exemptUsers() {
         Story x = new Story();
         x.setLimits(2, 0, 0, 1);
@@ -161,6 +173,48 @@ public final class ForecastTermsTest {
         Check.is("one of them", x.refusedOnDay(3, 1, 5000), -1);
         x.setExempt(2, true);
         Check.is("the user is exempt", x.refusedOnDay(2, 1, 5000), -1);
+    }
+
+    /** The same sentences when the increases are refused because of the hard limit or of the grace period. */
+    private static void exemptForEachReason() {
+        for (int account : new int[] {2, 7}) {
+            for (int soft : new int[] {0, 1}) {
+                Story x = new Story();
+                x.create(2, 1, 0, 0, 2);
+                x.setLimits(account, 0, soft, soft == 0 ? 2 : 0);
+                x.nextDays(7);
+                Check.is("not exempt", x.refusedOnDay(2, 1, 1), 1);
+                x.setExempt(2, true);
+                Check.is("exempt, one block", x.refusedOnDay(2, 1, 1), -1);
+                Check.is("exempt, 5000 blocks", x.refusedOnDay(2, 1, 5000), -1);
+                Check.is("another user of the group", x.refusedOnDay(3, 1, 1), account == 7 ? 1 : -1);
+                x.setExempt(2, false);
+                Check.is("no longer exempt", x.refusedOnDay(2, 1, 1), 1);
+            }
+        }
+    }
+
+    /** "After one call nextDays(1), on the second day, and so on": asked of these calls and of resize. */
+    private static void asTheDaysTell() {
+        int[][] rows = {{0, 50, 0, 0, 3}, {20, 0, 0, 0, 3}, {20, 45, 0, 0, 4}, {0, 0, 0, 50, 7}, {0, 0, 20, 0, 7},
+            {30, 0, 20, 45, 2}, {20, 45, 30, 40, 1}, {1, 0, 1, 0, 60}, {1, 1, 1, 1, 60}, {59, 60, 58, 0, 5}};
+        for (int[] r : rows) {
+            for (int first : new int[] {0, 1, 25, 60}) {
+                Story x = new Story();
+                x.create(2, 1, 0, 0, first);
+                x.setLimits(2, 0, r[0], r[1]);
+                x.setLimits(7, 0, r[2], r[3]);
+                x.nextDays(3);
+                int told = x.refusedOnDay(2, 1, r[4]);
+                int n = 1;
+                x.nextDays(1);
+                while (n < 70 && x.resize(0, 0, first + n * r[4]) == 0) {
+                    n++;
+                    x.nextDays(1);
+                }
+                Check.is("limits " + r[0] + " " + r[1] + " " + r[2] + " " + r[3] + ", from " + first, told, n);
+            }
+        }
     }
 
     private static void otherAccountsDoNotMatter() {
